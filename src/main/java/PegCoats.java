@@ -108,7 +108,7 @@ public final class PegCoats {
     private final Tape tape = new Tape();
     private final Works told = new Works();
     private final Works trial = new Works();
-    private final Reading reading = new Reading(tape);
+    private final Reading reading = new Reading(tape, trial);
     private final Course course = new Course(told);
     private final State now = new State();
     private final State ahead = new State();
@@ -145,7 +145,7 @@ public final class PegCoats {
     }
 
     public int works() {
-        reading.readInto(trial);
+        reading.readAll();
         tape.clear();
         if (reading.failed()) {
             return refuse(REFUSED_WORKS);
@@ -914,27 +914,27 @@ public final class PegCoats {
     }
 
     /**
-     * Reads a works from the tape. The first fault stays; behind it nothing more is taken, so that
+     * Reads a works from the tape into a trial one. The first fault stays; behind it nothing more is taken, so that
      * every method ends soon.
      */
     private static final class Reading {
         private final Scanner scan;
-        private Works works = null;
+        private final Works works;
         private int fault = 0;
         private int place = NONE;
         private int open = 0;
         private int program = PROGRAM_WARMS;
 
-        Reading(Tape tape) {
+        Reading(Tape tape, Works works) {
             scan = new Scanner(tape);
+            this.works = works;
         }
 
         boolean failed() {
             return fault != 0;
         }
 
-        void readInto(Works into) {
-            works = into;
+        void readAll() {
             works.clear();
             fault = 0;
             place = NONE;
