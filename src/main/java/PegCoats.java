@@ -1581,7 +1581,8 @@ public final class PegCoats {
 
     /** The fewest changes by which a man comes to a coat and nobody is colder. */
     private static final class Passing {
-        private static final int UNKNOWN = Integer.MIN_VALUE;
+        /** Below what any coat warms by. */
+        private static final int UNKNOWN = -2000000;
         private static final int LININGS = MOST_PASSES + 1;
 
         private final Works works;

@@ -289,6 +289,9 @@ public final class ActEdgesTest extends Dues {
         for (int c = 0; c < 3; c++) due("coat(" + c + ", 3)", x.coat(c, 3), burns && c == draw(next(seed), 3) ? 1 : 0);
       }
     }
+    fresh(three);
+    x.seed(seedFor(0));
+    due("chance(1) by 0 without fire, which is 0", x.chance(1), 0);
     for (int n = 1; n <= 8; n++) {
       StringBuilder text = new StringBuilder("fire 100;");
       for (int c = 0; c < n; c++) text.append("coat ").append((char) ('a' + c)).append(" size 1 pay 1;");
@@ -702,6 +705,11 @@ public final class ActEdgesTest extends Dues {
     due("undo()", x.undo(), false);
     due("kept(0, 0)", x.kept(0, 0), NONE);
     due("status(5)", x.status(5), 0);
+    x.years(3);
+    x.later(0, 2);
+    on(BUSY);
+    due("has(7) behind on()", x.has(7), 0);
+    due("kept(0, 0) behind on()", x.kept(0, 0), NONE);
     says(32, "The tape (it goes)");
     due("feed()", x.feed(0, 0, 0, 0, 0), 20);
     due("on()", x.on(), false);

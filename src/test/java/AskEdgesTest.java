@@ -13,6 +13,7 @@ public final class AskEdgesTest extends Dues {
     promise15Glad();
     promise16Passes();
     promise16Colder();
+    promise16Linings();
     promise16FirstRow();
     promise16ThreeAtMost();
     promise17Waits();
@@ -166,6 +167,19 @@ public final class AskEdgesTest extends Dues {
     busy();
     // red is burnt, di is gone: blue warms al 8, bo 10, cy 9; gray warms al 0, bo 2, cy 1
     matchIs(11, NONE, 1, 2, NONE);
+    says(14, "as it is now: asked again when one is burnt, gone, of another works");
+    fresh("coat a size 10 pay 1;coat b size 12 pay 1;man m size 10 age 1;man n size 12 age 64;leaves age=65;");
+    matchIs(20, 0, 1);
+    with(coatAt(0), 1);
+    matchIs(10, NONE, 1);
+    x.years(1);
+    matchIs(8, 1, NONE);
+    works(FULL);
+    matchIs(70, 0, 1, 2, 3, 4, 5, 6);
+    works("coat a size 10 pay 1;coat b size 12 pay 1;man m size 10 age 1;man n size 10 age 1;");
+    matchIs(18, 0, 1);
+    works("coat a size 10 pay 1;");
+    matchIs(0);
     fresh("coat a size 10 pay 1;coat b size 12 pay 1;man m size 10 age 1;man n size 12 age 1;wears m of b;wears n of a;");
     says(14, "of those that others have, too");
     matchIs(20, 0, 1);
@@ -205,13 +219,14 @@ public final class AskEdgesTest extends Dues {
     String men = "man k size 10 age 1;man l size 20 age 1;man m size 30 age 1;man n size 40 age 1;";
     fresh(coats + men + "wears k of d;wears l of c;wears m of b;wears n of a;");
     gladIs(2, 0, 3);
+    says(15, "NONE for others");
+    for (int what : new int[] {-2, -1, 3, 4}) due("glad(" + what + ")", x.glad(what), NONE);
+    for (int far : FAR) due("glad(" + far + ")", x.glad(far), NONE);
+    says(15, "how many pairs, the first pair, as it is now");
     x.pass(0, 3);
     gladIs(1, 1, 2);
     x.pass(2, 1);
     gladIs(0, NONE, NONE);
-    says(15, "NONE for others");
-    for (int what : new int[] {-2, -1, 3, 4}) due("glad(" + what + ")", x.glad(what), NONE);
-    for (int far : FAR) due("glad(" + far + ")", x.glad(far), NONE);
     StringBuilder all = new StringBuilder(FULL);
     for (int k = 0; k < 7; k++) all.append("wears ").append((char) ('k' + k)).append(" of ").append((char) ('a' + k)).append(';');
     fresh(all + "warms if(coat=size,0,1);");
@@ -260,6 +275,10 @@ public final class AskEdgesTest extends Dues {
     passesAre(6, 0, 6);
     says(16, "NONE without, when there are none such");
     noPasses(0, 7);
+    works(all + "warms if(coat=size,1,0);");
+    noPasses(0, 6);
+    noPasses(6, 0);
+    works(all + "warms 1;");
     for (int none : new int[] {-2, -1, 8}) {
       noPasses(0, none);
       noPasses(none, 0);
@@ -291,6 +310,8 @@ public final class AskEdgesTest extends Dues {
     for (int[] row : rows) {
       fresh("coat a size 20 pay 1;man m size " + row[0] + " age 1;man n size " + row[1] + " age 1;wears m of a;");
       if (row[2] == 1) passesAre(1, 0, 1); else noPasses(1, 0);
+      fresh("coat a size 20 pay 1;man m size " + row[1] + " age 1;man n size " + row[0] + " age 1;wears n of a;");
+      if (row[2] == 1) passesAre(0, 0, 1); else noPasses(0, 0);
     }
     // m and n change a and b: what each is warmed by ahead and then
     int[][] both = {{5, 5, 5, 5, 1}, {5, 6, 5, 5, 1}, {5, 4, 5, 5, 0}, {5, 5, 5, 4, 0}, {5, 5, 4, 5, 1}, {5, 9, 5, 4, 0}, {0, 0, 0, 0, 1}};
@@ -310,6 +331,54 @@ public final class AskEdgesTest extends Dues {
     with(coatAt(0) + 1, 99);
     with(coatAt(1) + 1, 99);
     passesAre(0, 1, 1);
+  }
+
+  private static void promise16Linings() {
+    says(16, "WARMED less by it than ahead: the COAT that he has by it as he has put it on, the other one as it was");
+    String two = "coat a size 10 pay 1;coat b size 20 pay 1;man m size 1 age 1;man n size 2 age 1;wears m of a;wears n of b;warms ";
+    for (int size = 1; size <= 2; size++) {
+      // the one of that size minds that a lining wears, the other one does not
+      fresh(two + "if(size=" + size + ",5-lining,5);");
+      noPasses(0, 1);
+      noPasses(1, 0);
+      // he likes a coat that two have put on, and goes by what his own is now, not by what it will be for the other one
+      fresh(two + "if(size=" + size + ",if(coat=" + 10 * size + " and lining=2,9,5),5);");
+      passesAre(0, 1, 1);
+      passesAre(1, 0, 1);
+      fresh(two + "if(size=" + size + ",if(lining=2,5,4),5);");
+      passesAre(0, 1, 1);
+      passesAre(1, 0, 1);
+      fresh(two + "if(size=" + size + ",if(lining=2,4,5),5);");
+      noPasses(0, 1);
+      noPasses(1, 0);
+    }
+    says(16, "the LININGS grow from change to change");
+    // m has 9 - 7 + lining by a, 5 by c: a must have been put on twice more, once by l and once by him
+    fresh("coat a size 10 pay 1;coat b size 20 pay 1;coat c size 12 pay 1;man k size 12 age 1;man l size 19 age 1;man m size 17 age 1;"
+        + "wears k of b;wears l of a;wears m of c;warms 9-max(size-coat,coat-size)+lining;");
+    passesAre(2, 0, 1, 2);
+    passesAre(0, 2, 2);
+    says(16, "a change that was tried and led nowhere leaves no LINING behind");
+    // m takes b as its second wearer, not as its third one: k must not have had it ahead, though that is tried first
+    four("size=3 and [coat=10 or coat=40 or coat=20 and lining>2]");
+    passesAre(0, 2, 8 + 2, 1);
+    x.pass(1, 3);
+    x.pass(1, 3);
+    due("coat(1, 2)", x.coat(1, 2), 3);
+    noPasses(0, 2);
+    says(16, "changes of COATS of two MEN who are there");
+    // t would have a by way of g, who takes it and hands it on
+    String coats = "coat a size 30 pay 1;coat b size 35 pay 1;";
+    String gone = "man g size 40 age 1;";
+    String others = "man m size 10 age 1;man t size 30 age 1;wears m of a;wears t of b;leaves size=40;";
+    fresh(coats + gone + others);
+    passesAre(2, 0, 1, 2);
+    x.years(1);
+    noPasses(2, 0);
+    fresh(coats + others + gone);
+    passesAre(1, 0, 2, 8 + 2);
+    x.years(1);
+    noPasses(1, 0);
   }
 
   /** Four men with a coat each; told are those (man, coat) by which a man is warmed 0, all others warm by 1. */
@@ -454,8 +523,13 @@ public final class AskEdgesTest extends Dues {
     for (int years : new int[] {31, 32, 128, 255}) refusedSee(years + " years", years, 0, 0);
     for (int man : new int[] {4, 5, 7, 255}) refusedSee("man " + man, 0, man, 0);
     for (int coat : new int[] {3, 4, 8, 254}) refusedSee("coat " + coat, 0, 0, coat);
-    refusedSee("a second row", 0, 0, 0, 31, 0, 0);
-    refusedSee("a last row", 0, 0, 0, 0, 0, 0, 0, 4, 0);
+    for (int k = 1; k < 16; k += 7) {
+      for (int place = 0; place < 3; place++) {
+        int[] rows = new int[48];
+        rows[3 * k + place] = new int[] {31, 4, 3}[place];
+        refusedSee("byte " + place + " of row " + k, rows);
+      }
+    }
     fresh(FULL);
     due("see() of the last ones", see(30, 6, 7), 1);
     due("see() beyond the last man", see(30, 7, 7), NONE);
@@ -493,6 +567,14 @@ public final class AskEdgesTest extends Dues {
     due("had(0), seen with another's", x.had(0), 0);
     see(0, 0, 2, 0, 0, 255);
     due("had(0), seen with both", x.had(0), 0);
+    see(0, 1, 1, 0, 0, 2, 1, 2, 255);
+    due("had(0) of three rows", x.had(0), 8);
+    see(0, 1, 1, 0, 3, 255, 1, 2, 2);
+    due("had(0) of three rows, the last of which tells", x.had(0), 1);
+    see(0, 1, 1, 0, 3, 255, 1, 2, 255);
+    due("had(0) of three rows, the last of which tells", x.had(0), 8);
+    see(0, 1, 1, 0, 3, 255, 0, 2, 2);
+    due("had(0) of three rows, the last of which is not so", x.had(0), 0);
     see(0, 3, 255);
     due("had(0), one gone has none", x.had(0), 9);
     see(30, 3, 2);

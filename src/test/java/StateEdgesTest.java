@@ -432,6 +432,8 @@ public final class StateEdgesTest extends Dues {
         test(told(a) + "=" + told(b), a == b);
       }
     }
+    for (String yes : new String[] {"all", "1=1", "1<2", "2>1", "[all]", "not 1=2"}) test("not " + yes, false);
+    for (String no : new String[] {"not all", "1=2", "2<1", "1<1", "1>2", "1>1", "[not all]"}) test("not " + no, true);
     test("1+2<2*2", true);
     test("1+2=6/2", true);
     test("7-2>2+3", false);

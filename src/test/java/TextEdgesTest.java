@@ -146,6 +146,27 @@ public final class TextEdgesTest extends Dues {
       due("fault(0)", x.fault(0), 0);
       due("fault(1)", x.fault(1), NONE);
     }
+    says(4, "The tape is THE WORKS: nothing of the one ahead of it is left");
+    String rules = "coat a size 10 pay 1;man m size 10 age 1;warms 7;grows 20;leaves age=3;";
+    String plain = "coat a size 10 pay 1;man m size 10 age 1;";
+    fresh(rules);
+    for (int k = 0; k < 3; k++) {
+      due("warms(0, 0) by the rules", x.warms(0, 0), 7);
+      due("goes(0) by the rules", x.goes(0), 1);
+      works("1");
+      due("works() with a fault at a number, place", x.fault(1), 0);
+      due("works() without rules", works(plain), 2);
+      due("warms(0, 0)", x.warms(0, 0), 10);
+      due("goes(0)", x.goes(0), NONE);
+      x.years(1);
+      due("man(0, 0)", x.man(0, 0), 10);
+      works("x");
+      due("works() with a fault at a word, place", x.fault(1), 0);
+      due("works() with rules again", works(rules), 5);
+      x.years(1);
+      due("man(0, 0) by the rules", x.man(0, 0), 20);
+      x.undo();
+    }
     says(4, "It is YEAR 0, purses are empty; all MEN are there; LINING is 1 at first if it is on one, else 0; none is BURNT at first");
     fresh(FULL + "wears q of a;wears k of h;");
     due("has(2)", x.has(2), 0);
@@ -285,6 +306,13 @@ public final class TextEdgesTest extends Dues {
       fresh(ofTwo + fires[k]);
       due("chance(1) by " + fires[k], x.chance(1), burnt[k]);
     }
+    fresh(ofTwo + "fire 100;");
+    works(ofTwo);
+    due("chance(1) without, behind a works with it", x.chance(1), 0);
+    works(ofTwo + "fire 100;fire 101;");
+    due("chance(1) behind a fault", x.chance(1), 0);
+    works(ofTwo);
+    due("chance(1) without, behind a fault", x.chance(1), 0);
   }
 
   private static void promise5Wears() {
