@@ -1077,7 +1077,8 @@ public final class PegCoats {
             } else if (scan.isSign('[')) {
                 if (opens()) {
                     readTest();
-                    closes(']');
+                    takeSign(']');
+                    open--;
                 }
             } else if (scan.word == WORD_ALL) {
                 scan.advance();
@@ -1133,7 +1134,8 @@ public final class PegCoats {
             } else if (scan.isSign('(')) {
                 if (opens()) {
                     readSum();
-                    closes(')');
+                    takeSign(')');
+                    open--;
                 }
             } else if (scan.word == WORD_MIN || scan.word == WORD_MAX || scan.word == WORD_IF) {
                 readChoice(scan.word);
@@ -1161,7 +1163,8 @@ public final class PegCoats {
             readSum();
             takeSign(',');
             readSum();
-            closes(')');
+            takeSign(')');
+            open--;
             emit(CODE_WORDS - word);
         }
 
@@ -1191,11 +1194,6 @@ public final class PegCoats {
             open++;
             scan.advance();
             return true;
-        }
-
-        private void closes(char sign) {
-            takeSign(sign);
-            open--;
         }
 
         private void emit(int code) {
